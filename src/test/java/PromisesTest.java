@@ -156,6 +156,9 @@ public final class PromisesTest {
         due("row of fewer than none", x.row(1, 0, LEAST), SIZE);
         due("in its place", x.row(1, 0, 4), 4);
         due("items are 0 at first", item(x, 1, 2), 0);
+        x.set(1, 0, 8);
+        x.row(1, 0, 4);
+        due("items are 0 at first", item(x, 1, 0), 0);
         due("no item more", x.set(1, 4, 1), PLACE);
         due("the last item", x.set(1, 3, 1), 1);
     }
@@ -621,6 +624,9 @@ public final class PromisesTest {
         due("another is ahead of it", x.bestHour(0, 4, 1), 11);
         due("k, the last of all", x.bestHour(0, 4, 0), 5);
         x.callBack(0);
+        x.post(2, 0, 4);
+        due("another is ahead of it", x.bestHour(0, 4, 1), 11);
+        x.callBack(2);
         x.post(3, 0, 4);
         due("in place of what it is", x.bestHour(0, 4, 1), 5);
         due("nothing changes", x.letter(3, 1), 0);
@@ -645,6 +651,11 @@ public final class PromisesTest {
         x.post(0, 0, 4);
         due("another is ahead of it", x.spots(4, 5), 16);
         due("a day later", x.spots(4, 11), 31);
+        x.callBack(0);
+        x.post(2, 0, 4);
+        due("another is ahead of it", x.spots(4, 5), 16);
+        x.callBack(2);
+        x.post(0, 0, 4);
         x.callBack(0);
         x.post(3, 0, 4);
         due("in place of what it is", x.spots(4, 5), 31);
@@ -688,6 +699,12 @@ public final class PromisesTest {
         due("the least two", y.crew(0, 2, 1), 3);
         y.stay(0, 1);
         due("the other two", y.crew(0, 2, 1), 6);
+        tell(y, "t3,4;w0,1,0;w1,2,1;");
+        y.post(0, 0, 2);
+        due("all", y.crew(0, 2, 1), 3);
+        tell(y, "t3,4;w0,1,0;w1,2,1;w0,2,0;");
+        y.post(0, 0, 2);
+        due("the fewest are ahead of the least", y.crew(0, 2, 1), 4);
         refusals("crew", x.crew(4, 1, 0), x.crew(-1, 1, 0), x.crew(3, 1, 0));
         due("bad", x.crew(0, 0, 0), BAD);
         due("bad", x.crew(0, 100, 0), BAD);
@@ -769,6 +786,8 @@ public final class PromisesTest {
         due("a drunkard", x.who(0, 0, 0, 1, 0, 3), 8);
         fill(x, 1, 0, 2);
         due("a blind one", x.who(0, 0, 0, 1, 0, 2), 32);
+        fill(x, 1, 1, 2);
+        due("at once", x.who(0, 1, 0, 1, 0, 2), 1);
         findings(x, 3);
         due("bad person", x.who(1, 0, 0, 2, 0, 1), BAD);
         due("bad person", x.who(-1, 0, 0, 2, 0, 1), BAD);
@@ -889,6 +908,8 @@ public final class PromisesTest {
         HeelPost y = in("t2,4;w0,1,0;w0,1,0;w0,1,0;w0,1,0;w0,1,0;w0,1,0;");
         y.post(0, 0, 1);
         fraction("not all six", y, 1, 1, 999999, 1000000);
+        y.post(0, 1, 1);
+        fraction("it is there though all are sick", y, 0, 9, 1, 1);
         refusals("sick", x.sick(4, 1, 1, 0), x.sick(-1, 1, 1, 0), x.sick(3, 1, 1, 0));
         int[][] bad = {{100, 0, 0}, {-1, 0, 0}, {0, 11, 0}, {0, -1, 0}, {0, 0, 2}, {0, 0, -1}};
         for (int[] b : bad) {
@@ -924,8 +945,15 @@ public final class PromisesTest {
         for (int[] b : bad) {
             due("bad", y.drawn(b[0], b[1], b[2]), BAD);
         }
+        due("the greatest seed", y.drawn(0, 999999, 0), 2);
         y.drawn(99, 999999, 0);
         due("nothing changes", y.count(3), 0);
+        HeelPost z = in("t4,6;w2,0,4;");
+        due("from lane 2 for lane 1", z.drawn(5, 1, 0), 1);
+        due("carried", z.drawn(5, 1, 1), 1);
+        tell(z, "t3,6;w1,0,4;");
+        due("from lane 1 for lane 1", z.drawn(5, 1, 0), 1);
+        due("not carried", z.drawn(5, 1, 1), 0);
     }
 
     private static void images() {
@@ -968,6 +996,7 @@ public final class PromisesTest {
         due("kind", x.kind(4), 5);
         x.hours(1);
         due("the other", x.restore(1), 1);
+        due("no act", x.count(6), 0);
         due("hour", x.count(3), 5);
         due("the same again", x.restore(0), 1);
         due("hour", x.count(3), 3);
