@@ -277,44 +277,23 @@ public final class HeelPost {
     }
 
     public int who(int person, int which, int letter, int row, int i, int n) {
-        boolean good = isPerson(person) && within(which, 0, 1) && isTelling(row, n);
-        int refusal = refusalOf(letter, good);
+        boolean good = isPerson(person) && within(which, 0, 1);
+        int refusal = refusalOfTold(letter, good, row, i, n);
         if (refusal != 0) {
             return refusal;
         }
-        int finding = rows.findingOf(row, i, n);
-        if (finding != 0) {
-            return found(finding);
-        }
-        foretold.hear(rows, row, i, n);
         return unfound(which == 0 ? foretold.kindsThatFit(now, person, letter)
                 : foretold.beginsThatFit(now, person, letter));
     }
 
     public int missing(int letter, int row, int i, int n) {
-        int refusal = refusalOf(letter, isTelling(row, n));
-        if (refusal != 0) {
-            return refusal;
-        }
-        int finding = rows.findingOf(row, i, n);
-        if (finding != 0) {
-            return found(finding);
-        }
-        foretold.hear(rows, row, i, n);
-        return unfound(foretold.absentThatFit(now, letter));
+        int refusal = refusalOfTold(letter, true, row, i, n);
+        return refusal != 0 ? refusal : unfound(foretold.absentThatFit(now, letter));
     }
 
     public int goals(int letter, int row, int i, int n) {
-        int refusal = refusalOf(letter, isTelling(row, n));
-        if (refusal != 0) {
-            return refusal;
-        }
-        int finding = rows.findingOf(row, i, n);
-        if (finding != 0) {
-            return found(finding);
-        }
-        foretold.hear(rows, row, i, n);
-        return unfound(foretold.goalsThatFit(now, letter));
+        int refusal = refusalOfTold(letter, true, row, i, n);
+        return refusal != 0 ? refusal : unfound(foretold.goalsThatFit(now, letter));
     }
 
     public int busy(int n, int what) {
@@ -418,10 +397,6 @@ public final class HeelPost {
         return within(n, 1, MOST_AHEAD);
     }
 
-    private static boolean isTelling(int row, int n) {
-        return Rows.isRow(row) && within(n, 1, MOST_TOLD);
-    }
-
     private boolean isPerson(int p) {
         return p >= 0 && p < now.people;
     }
@@ -440,6 +415,20 @@ public final class HeelPost {
             return BAD;
         }
         return now.isOut(letter) ? 0 : STATE;
+    }
+
+    /** What a ROW tells of a LETTER is heard, if nothing is refused or found; 0 then. */
+    private int refusalOfTold(int letter, boolean othersGood, int row, int i, int n) {
+        int refusal = refusalOf(letter, othersGood && Rows.isRow(row) && within(n, 1, MOST_TOLD));
+        if (refusal != 0) {
+            return refusal;
+        }
+        int finding = rows.findingOf(row, i, n);
+        if (finding != 0) {
+            return found(finding);
+        }
+        foretold.hear(rows, row, i, n);
+        return 0;
     }
 
     private int found(int finding) {
