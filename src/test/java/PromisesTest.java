@@ -1,22 +1,5 @@
 /** Each promise of the document, with answers that were worked out by hand from its words. */
-public final class PromisesTest {
-    private static final int NONE = HeelPost.NONE, BAD = HeelPost.BAD, STATE = HeelPost.STATE, FULL = HeelPost.FULL;
-    private static final int NULL = -1000011, PLACE = -1000012, KIND = -1000013, SIZE = -1000014, STORE = -1000015;
-    private static final int LEAST = Integer.MIN_VALUE, MOST = Integer.MAX_VALUE;
-
-    /**
-     * Where each is, by the clock from 0 to 5:
-     * 0 w: 0 0 1 2 3 4; 1 c: 4 3 2 1 0 0; 2 d: 1 1 2 2 3 3; 3 m: 2 1 0 0 0 0, on odd days 2;
-     * 4 b: 0 0 0 2 3 3, on odd days 0.
-     */
-    private static final String FIVE = "t5,6;w0,4,1;c4,0,0;d1,3,0;m2,0,0;b0,3,2;";
-    private static final String ONE = "t5,6;w0,4,1;";
-    /** Nobody ever goes, so a letter stays where it is put. */
-    private static final String STILL = "t9,4;w0,8,23;";
-
-    private static int wrong = 0;
-    private static int promise = 0;
-
+public final class PromisesTest extends Checks {
     public static void main(String[] args) {
         aNewObject();
         rows();
@@ -60,33 +43,7 @@ public final class PromisesTest {
         traced();
         counted();
         statuses();
-        System.out.println(wrong == 0 ? "all answers are as due" : wrong + " answers are not as due");
-        if (wrong != 0) {
-            System.exit(1);
-        }
-    }
-
-    private static void due(String call, long got, long want) {
-        if (got != want) {
-            wrong++;
-            System.out.println("promise " + promise + ": " + call + " answered " + got + ", due is " + want);
-        }
-    }
-
-    private static void feed(HeelPost x, String text) {
-        for (int i = 0; i < text.length(); i++) {
-            x.feed(text.charAt(i));
-        }
-    }
-
-    private static HeelPost in(String text) {
-        HeelPost x = new HeelPost();
-        feed(x, text);
-        if (x.town() < 1) {
-            wrong++;
-            System.out.println("promise " + promise + ": the town " + text + " was not read");
-        }
-        return x;
+        end();
     }
 
     /** Three letters: 0 is there behind 5 hours, 1 behind 4, 2 behind 4 by the blind one and the drunkard. */
@@ -98,26 +55,8 @@ public final class PromisesTest {
         return x;
     }
 
-    private static void fill(HeelPost x, int row, int... items) {
-        x.row(row, 0, items.length);
-        for (int i = 0; i < items.length; i++) {
-            x.set(row, i, items[i]);
-        }
-    }
-
-    /** An item from 0 to 8, read by the lane of a letter that stays; the town must be STILL. */
-    private static int item(HeelPost x, int row, int i) {
-        for (int v = 0; v < 9; v++) {
-            x.post(0, v, v);
-            if (x.missing(0, row, i, 1) >= 64) {
-                return v;
-            }
-        }
-        return NONE;
-    }
-
     private static void aNewObject() {
-        promise = 1;
+        test = "promise 1";
         HeelPost x = new HeelPost();
         for (int what = 0; what <= 7; what++) {
             due("count(" + what + ")", x.count(what), 0);
@@ -137,7 +76,7 @@ public final class PromisesTest {
     }
 
     private static void rows() {
-        promise = 2;
+        test = "promise 2";
         HeelPost x = in(STILL);
         due("row of none", x.row(0, 0, 0), 0);
         due("row of 40", x.row(7, 2, 40), 40);
@@ -164,7 +103,7 @@ public final class PromisesTest {
     }
 
     private static void setting() {
-        promise = 3;
+        test = "promise 3";
         HeelPost x = in(STILL);
         x.row(0, 0, 2);
         x.row(1, 1, 2);
@@ -195,7 +134,7 @@ public final class PromisesTest {
     }
 
     private static void copying() {
-        promise = 4;
+        test = "promise 4";
         HeelPost x = in(STILL);
         fill(x, 0, 1, 2, 3, 4);
         fill(x, 1, 5, 6);
@@ -228,7 +167,7 @@ public final class PromisesTest {
     }
 
     private static void dropping() {
-        promise = 5;
+        test = "promise 5";
         HeelPost x = new HeelPost();
         x.row(4, 1, 17);
         due("drop", x.drop(4), 17);
@@ -241,7 +180,7 @@ public final class PromisesTest {
     }
 
     private static void feeding() {
-        promise = 6;
+        test = "promise 6";
         HeelPost x = new HeelPost();
         due("feed", x.feed(0), 1);
         due("feed", x.feed(255), 2);
@@ -256,7 +195,7 @@ public final class PromisesTest {
     }
 
     private static void reading() {
-        promise = 7;
+        test = "promise 7";
         HeelPost x = in("t02,04;w00,01,05;");
         due("lanes", x.count(1), 2);
         due("begins", x.person(0, 2), 5);
@@ -285,13 +224,8 @@ public final class PromisesTest {
         due("the new one", x.person(1, 0), BAD);
     }
 
-    private static int tell(HeelPost x, String text) {
-        feed(x, text);
-        return x.town();
-    }
-
     private static void faults() {
-        promise = 8;
+        test = "promise 8";
         HeelPost x = new HeelPost();
         Object[][] texts = {
             {"w", 0, 1}, {"t", 1, 1}, {"T2,4;w0,1,0;", 0, 1}, {" t2,4;w0,1,0;", 0, 1}, {"tt", 1, 1},
@@ -319,7 +253,7 @@ public final class PromisesTest {
     }
 
     private static void undoing() {
-        promise = 9;
+        test = "promise 9";
         HeelPost x = in(ONE);
         due("none", x.undo(), STATE);
         x.post(2, 0, 4);
@@ -362,7 +296,7 @@ public final class PromisesTest {
     }
 
     private static void hours() {
-        promise = 10;
+        test = "promise 10";
         HeelPost x = inFive();
         due("bad", x.hours(0), BAD);
         due("bad", x.hours(25), BAD);
@@ -402,7 +336,7 @@ public final class PromisesTest {
     }
 
     private static void posting() {
-        promise = 11;
+        test = "promise 11";
         HeelPost x = in(ONE);
         due("post", x.post(1, 0, 4), 2);
         due("post", x.post(3, 4, 0), 10);
@@ -418,7 +352,7 @@ public final class PromisesTest {
     }
 
     private static void callingBack() {
-        promise = 12;
+        test = "promise 12";
         HeelPost x = in(ONE);
         x.post(1, 3, 4);
         due("call back", x.callBack(1), 3);
@@ -430,7 +364,7 @@ public final class PromisesTest {
     }
 
     private static void beginning() {
-        promise = 13;
+        test = "promise 13";
         HeelPost x = in(ONE);
         due("begin", x.begin(0, 23), 1);
         due("begin", x.begin(0, 0), 23);
@@ -443,7 +377,7 @@ public final class PromisesTest {
     }
 
     private static void staying() {
-        promise = 14;
+        test = "promise 14";
         HeelPost x = in(FIVE);
         x.hours(3);
         due("stay", x.stay(4, 1), 16);
@@ -461,7 +395,7 @@ public final class PromisesTest {
     }
 
     private static void people() {
-        promise = 15;
+        test = "promise 15";
         int[][][] places = {
             {{0, 0, 1, 2, 3, 4}, {0, 0, 1, 2, 3, 4}}, {{4, 3, 2, 1, 0, 0}, {4, 3, 2, 1, 0, 0}},
             {{1, 1, 2, 2, 3, 3}, {1, 1, 2, 2, 3, 3}}, {{2, 1, 0, 0, 0, 0}, {2, 2, 2, 2, 2, 2}},
@@ -493,7 +427,7 @@ public final class PromisesTest {
     }
 
     private static void letters() {
-        promise = 16;
+        test = "promise 16";
         HeelPost x = inFive();
         due("out", x.letter(0, 0), 1);
         due("not out", x.letter(3, 0), 0);
@@ -519,7 +453,7 @@ public final class PromisesTest {
     }
 
     private static void lanes() {
-        promise = 17;
+        test = "promise 17";
         HeelPost x = in(FIVE);
         int[] bits = {17, 4, 8, 0, 2};
         for (int l = 0; l < 5; l++) {
@@ -535,7 +469,7 @@ public final class PromisesTest {
     }
 
     private static void aheadOfPeople() {
-        promise = 18;
+        test = "promise 18";
         HeelPost x = in(FIVE);
         x.hours(2);
         due("now", x.ahead(0, 0), 1);
@@ -554,7 +488,7 @@ public final class PromisesTest {
     }
 
     private static void aheadOfLetters() {
-        promise = 19;
+        test = "promise 19";
         HeelPost x = inFive();
         due("now", x.letterAhead(0, 0), 0);
         due("ahead", x.letterAhead(0, 3), 2);
@@ -576,7 +510,7 @@ public final class PromisesTest {
     }
 
     private static void arriving() {
-        promise = 20;
+        test = "promise 20";
         HeelPost x = inFive();
         due("arrives", x.arrives(0), 5);
         due("arrives", x.arrives(1), 4);
@@ -594,7 +528,7 @@ public final class PromisesTest {
     }
 
     private static void carrying() {
-        promise = 21;
+        test = "promise 21";
         HeelPost x = inFive();
         due("carriers", x.carriers(0, 99), 1);
         due("carriers", x.carriers(2, 2), 0);
@@ -607,7 +541,7 @@ public final class PromisesTest {
     }
 
     private static void bestHours() {
-        promise = 22;
+        test = "promise 22";
         HeelPost x = in(ONE);
         due("k, the last", x.bestHour(0, 4, 0), 1);
         due("behind", x.bestHour(0, 4, 1), 5);
@@ -642,7 +576,7 @@ public final class PromisesTest {
     }
 
     private static void spots() {
-        promise = 23;
+        test = "promise 23";
         HeelPost x = in(ONE);
         due("spots", x.spots(4, 5), 31);
         due("spots", x.spots(4, 4), 16);
@@ -666,7 +600,7 @@ public final class PromisesTest {
     }
 
     private static void cutOff() {
-        promise = 24;
+        test = "promise 24";
         HeelPost x = in("t5,6;w1,3,0;");
         due("cut off", x.cutOff(), 17);
         x.stay(0, 1);
@@ -678,7 +612,7 @@ public final class PromisesTest {
     }
 
     private static void crews() {
-        promise = 25;
+        test = "promise 25";
         HeelPost x = inFive();
         due("how many", x.crew(2, 6, 0), 1);
         due("which, the least: the child at night", x.crew(2, 6, 1), 2);
@@ -713,7 +647,7 @@ public final class PromisesTest {
     }
 
     private static void needed() {
-        promise = 26;
+        test = "promise 26";
         HeelPost x = inFive();
         due("the blind one, and who takes the other letter", x.needed(2, 5), 17);
         due("it is not so", x.needed(2, 3), 0);
@@ -732,7 +666,7 @@ public final class PromisesTest {
     }
 
     private static void meeting() {
-        promise = 27;
+        test = "promise 27";
         HeelPost x = in(FIVE);
         due("now", x.meet(0, 4), 0);
         due("meet", x.meet(0, 2), 3);
@@ -749,7 +683,7 @@ public final class PromisesTest {
     }
 
     private static void answers() {
-        promise = 28;
+        test = "promise 28";
         HeelPost x = inFive();
         due("answer", x.answer(0), 6);
         due("answer", x.answer(1), 6);
@@ -771,7 +705,7 @@ public final class PromisesTest {
     }
 
     private static void who() {
-        promise = 29;
+        test = "promise 29";
         HeelPost x = in(ONE);
         x.post(0, 0, 4);
         fill(x, 2, 7, 0, 1, 2, 3, 4);
@@ -835,7 +769,7 @@ public final class PromisesTest {
     }
 
     private static void missing() {
-        promise = 30;
+        test = "promise 30";
         HeelPost x = in("t3,4;w0,1,0;w0,2,0;");
         x.post(0, 0, 2);
         fill(x, 0, 1, 2);
@@ -851,7 +785,7 @@ public final class PromisesTest {
     }
 
     private static void goals() {
-        promise = 31;
+        test = "promise 31";
         HeelPost x = in("t5,6;w0,4,0;");
         x.post(0, 0, 4);
         fill(x, 0, 1, 2, 2);
@@ -868,7 +802,7 @@ public final class PromisesTest {
     }
 
     private static void busy() {
-        promise = 32;
+        test = "promise 32";
         HeelPost x = inFive();
         due("the first of several", x.busy(6, 0), 0);
         due("how often", x.busy(6, 1), 4);
@@ -890,7 +824,7 @@ public final class PromisesTest {
     }
 
     private static void sick() {
-        promise = 33;
+        test = "promise 33";
         HeelPost x = in("t3,4;w0,1,0;w1,2,1;");
         x.post(0, 0, 2);
         fraction("both are needed", x, 2, 3, 49, 100);
@@ -924,7 +858,7 @@ public final class PromisesTest {
 
     /** From 1 on X is 16807, 282475249, 1622650073, 984943658, 1144108930: letter 2 is posted in the fifth. */
     private static void drawn() {
-        promise = 34;
+        test = "promise 34";
         HeelPost x = in("t5,6;w0,4,4;");
         due("not yet", x.drawn(4, 1, 1), 0);
         due("carried", x.drawn(5, 1, 1), 1);
@@ -957,7 +891,7 @@ public final class PromisesTest {
     }
 
     private static void images() {
-        promise = 35;
+        test = "promise 35";
         HeelPost x = new HeelPost();
         due("BAD is ahead of STATE", x.image(2), BAD);
         due("bad", x.image(-1), BAD);
@@ -969,7 +903,7 @@ public final class PromisesTest {
     }
 
     private static void restoring() {
-        promise = 36;
+        test = "promise 36";
         HeelPost x = inFive();
         due("none was kept", x.restore(0), STATE);
         due("bad", x.restore(2), BAD);
@@ -1003,7 +937,7 @@ public final class PromisesTest {
     }
 
     private static void kinds() {
-        promise = 37;
+        test = "promise 37";
         HeelPost x = in(FIVE);
         for (int p = 0; p < 5; p++) {
             due("kind", x.kind(p), p + 1);
@@ -1013,7 +947,7 @@ public final class PromisesTest {
     }
 
     private static void taken() {
-        promise = 38;
+        test = "promise 38";
         HeelPost x = in(FIVE);
         String[] are = {"01", "012", "013", "04", "045"};
         for (int p = 0; p < 5; p++) {
@@ -1031,7 +965,7 @@ public final class PromisesTest {
     }
 
     private static void asked() {
-        promise = 39;
+        test = "promise 39";
         HeelPost x = in(FIVE);
         asks(x, 0, 0, 1, 11, 10, 21, 20);
         asks(x, 0, 1, 0, 21, 20);
@@ -1062,7 +996,7 @@ public final class PromisesTest {
     }
 
     private static void traced() {
-        promise = 40;
+        test = "promise 40";
         HeelPost x = in(FIVE);
         due("before an ask", x.trace(0), NONE);
         x.ask(4, 1);
@@ -1076,7 +1010,7 @@ public final class PromisesTest {
     }
 
     private static void counted() {
-        promise = 41;
+        test = "promise 41";
         HeelPost x = inFive();
         x.row(3, 0, 0);
         x.row(5, 0, 9);
@@ -1094,7 +1028,7 @@ public final class PromisesTest {
     }
 
     private static void statuses() {
-        promise = 42;
+        test = "promise 42";
         HeelPost x = in(FIVE);
         due("none", x.status(), 0);
         x.drop(0);
