@@ -26,13 +26,6 @@ public final class EdgesTest extends Checks {
         }
     }
 
-    /** Letter 0 from lane 0 for a goal. */
-    private static HeelPost sent(String town, int goal) {
-        HeelPost x = in(town);
-        x.post(0, 0, goal);
-        return x;
-    }
-
     // ---------------------------------------------------------------- 1 to 8: rows, what is told
 
     @Says("`HeelPost()`: No TOWN.")
@@ -307,8 +300,10 @@ public final class EdgesTest extends Checks {
         x.stay(0, 1);
         x.image(1);
         x.ask(0, 1);
-        for (String text : new String[] {"", "x", "t9,24;", "t9,24;b8,0,0", "t9,24;b8,0,0;x"}) {
-            due("town of " + text, tell(x, text), -1000100 - (text.startsWith("t9,24;b8,0,0;") ? 13 : text.equals("x") ? 0 : text.length()));
+        String[] texts = {"", "x", "t9,24;", "t9,24;b8,0,0", "t9,24;b8,0,0;x"};
+        int[] places = {0, 0, 6, 12, 13};
+        for (int i = 0; i < texts.length; i++) {
+            due("town of " + texts[i], tell(x, texts[i]), -1000100 - places[i]);
             int[] counts = {0, 5, 1, 3, 8, 1, 6, 0};
             for (int what = 0; what <= 7; what++) {
                 due("count(" + what + ")", x.count(what), counts[what]);
@@ -537,6 +532,7 @@ public final class EdgesTest extends Checks {
             int l = each;
             bounds("what of " + l, 0, 3, w -> x.letter(l, w));
         }
+        due("whether out", x.letter(3, 0), 1);
         due("who", x.letter(0, 3), 0);
         due("nobody", x.letter(3, 3), NONE);
         x.post(0, 4, 4);
@@ -751,6 +747,20 @@ public final class EdgesTest extends Checks {
         foundInARow("kinds", x, (row, i, n) -> x.who(0, 0, 0, row, i, n));
         foundInARow("begins", x, (row, i, n) -> x.who(5, 1, 0, row, i, n));
         dueOfEach(STATE, "not out, of a missing row or no place", i -> x.who(0, 0, 1, 7, i, 1), LEAST, 0, MOST);
+    }
+
+    @Says("KINDS (which = 0), BEGINS (1) of a PERSON, n ITEMS of a ROW from i on.")
+    static void promise29_byItemsFromTheFirstToTheLast() {
+        HeelPost x = sent("t9,24;w0,8,0;", 8);
+        x.row(0, 0, 40);
+        x.set(0, 0, 2);
+        x.set(0, 38, 1);
+        x.set(0, 39, 2);
+        due("kinds by the first", x.who(0, 0, 0, 0, 0, 1), 32);
+        due("kinds by the last two", x.who(0, 0, 0, 0, 38, 2), 2 + 4 + 16);
+        due("begins by the last two", x.who(0, 1, 0, 0, 38, 2), 1);
+        due("kinds by the last", x.who(0, 0, 0, 0, 39, 1), 32);
+        due("begins by the last", x.who(0, 1, 0, 0, 39, 1), 0);
     }
 
     @Says("MISSING, n ITEMS of a ROW from i on. BAD: LETTER, ROW, n; STATE; NULL; PLACE.")

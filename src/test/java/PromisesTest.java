@@ -39,7 +39,7 @@ public final class PromisesTest extends Checks {
         restoring();
         kinds();
         taken();
-        asked();
+        asking();
         traced();
         counted();
         statuses();
@@ -964,19 +964,19 @@ public final class PromisesTest extends Checks {
         due("status stays", x.status(), 0);
     }
 
-    private static void asked() {
+    private static void asking() {
         test = "promise 39";
         HeelPost x = in(FIVE);
-        asks(x, 0, 0, 1, 11, 10, 21, 20);
-        asks(x, 0, 1, 0, 21, 20);
-        asks(x, 1, 0, -10, 12, 11, 10, 24, 21, 20);
-        asks(x, 1, 1, 10, 24, 21, 20);
-        asks(x, 2, 0, -997, 11, 10, 22, 21, 20);
-        asks(x, 2, 1, -997, 22, 21, 20);
-        asks(x, 3, 0, -100, 13, 10);
-        asks(x, 3, 1, 103, 23, 20, 13, 10);
-        asks(x, 4, 0, -196, 14, 13, 10);
-        asks(x, 4, 1, 200, 23, 20, 14, 13, 10);
+        asked(x, 0, 0, 1, 11, 10, 21, 20);
+        asked(x, 0, 1, 0, 21, 20);
+        asked(x, 1, 0, -10, 12, 11, 10, 24, 21, 20);
+        asked(x, 1, 1, 10, 24, 21, 20);
+        asked(x, 2, 0, -997, 11, 10, 22, 21, 20);
+        asked(x, 2, 1, -997, 22, 21, 20);
+        asked(x, 3, 0, -100, 13, 10);
+        asked(x, 3, 1, 103, 23, 20, 13, 10);
+        asked(x, 4, 0, -196, 14, 13, 10);
+        asked(x, 4, 1, 200, 23, 20, 14, 13, 10);
         due("bad", x.ask(5, 0), BAD);
         due("bad", x.ask(-1, 0), BAD);
         due("bad", x.ask(0, 2), BAD);
@@ -984,15 +984,7 @@ public final class PromisesTest extends Checks {
         due("the trace stays", x.trace(4), 10);
         x.hours(3);
         x.begin(0, 2);
-        asks(x, 0, 0, 3, 11, 10, 21, 20);
-    }
-
-    private static void asks(HeelPost x, int one, int what, int answer, int... trace) {
-        due("ask(" + one + "," + what + ")", x.ask(one, what), answer);
-        for (int i = 0; i < trace.length; i++) {
-            due("trace(" + i + ") of ask(" + one + "," + what + ")", x.trace(i), trace[i]);
-        }
-        due("no more", x.trace(trace.length), NONE);
+        asked(x, 0, 0, 3, 11, 10, 21, 20);
     }
 
     private static void traced() {

@@ -21,13 +21,6 @@ public final class TermsAheadTest extends Checks {
         end();
     }
 
-    /** Letter 0 from lane 0 for a goal. */
-    private static HeelPost sent(String town, int goal) {
-        HeelPost x = in(town);
-        x.post(0, 0, goal);
-        return x;
-    }
-
     private static HeelPost allAtHome(String town, int goal) {
         HeelPost x = sent(town, goal);
         for (int p = 0; p < x.count(2); p++) {
@@ -42,6 +35,26 @@ public final class TermsAheadTest extends Checks {
     }
 
     // ---------------------------------------------------------------- ======== 3
+
+    @Says("foretold (of a LETTER that is OUT; STATE, behind BAD: it is not)")
+    static void foretold_ofALetterThatIsNotOut() {
+        HeelPost x = in(CHAIN);
+        x.row(0, 0, 1);
+        for (int l = 0; l <= 3; l++) {
+            due("letterAhead", x.letterAhead(l, 0), STATE);
+            due("arrives", x.arrives(l), STATE);
+            due("carriers", x.carriers(l, 1), STATE);
+            due("crew", x.crew(l, 1, 0), STATE);
+            due("needed", x.needed(l, 1), STATE);
+            due("answer", x.answer(l), STATE);
+            due("who", x.who(0, 0, l, 0, 0, 1), STATE);
+            due("missing", x.missing(l, 0, 0, 1), STATE);
+            due("goals", x.goals(l, 0, 0, 1), STATE);
+            due("sick", x.sick(l, 0, 0, 0), STATE);
+        }
+        due("those of no letter are not refused", x.bestHour(0, 3, 1), 99);
+        due("those of no letter are not refused", x.busy(1, 1), 0);
+    }
 
     @Says("FORETOLD (nothing changes).")
     static void part3_nothingChanges() {
@@ -125,7 +138,7 @@ public final class TermsAheadTest extends Checks {
         due("all six", sent(RELAY, 6).carriers(0, 6), 63);
     }
 
-    @Says("a LETTER that is posted k HOURS from now (0 to HOURS less 1;")
+    @Says("POST for a LANE, a GOAL: a LETTER that is posted k HOURS from now (0 to HOURS less 1;")
     static void part3_postedWithin0ToHoursLess1() {
         HeelPost x = in("t2,4;w0,1,0;");
         due("0, as he goes at once", x.bestHour(0, 1, 0), 0);
@@ -227,7 +240,7 @@ public final class TermsAheadTest extends Checks {
         due("1", sent("t2,4;w0,1,0;", 1).crew(0, 1, 0), 1);
     }
 
-    @Says("the fewest PEOPLE of those who are not AT HOME (all others AT HOME now)")
+    @Says("the fewest PEOPLE of those who are not AT HOME (all others AT HOME now) by whom it is at its GOAL behind n HOURS or less:")
     static void part3_crewOfNoneAndOfAll() {
         HeelPost x = sent(RELAY, 0);
         due("nobody, as it is there", x.crew(0, 1, 0), 0);
@@ -316,7 +329,7 @@ public final class TermsAheadTest extends Checks {
         due("with one who is at home", x.meet(3, 1), 0);
     }
 
-    @Says("an answer, posted at its GOAL when it is there (as LETTER 3, in place of what that is)")
+    @Says("ANSWER for a LETTER: behind how many HOURS from now an answer, posted at its GOAL when it is there (as LETTER 3, in place of what that is)")
     static void part3_anAnswerAsLetter3() {
         HeelPost x = in("t2,4;w0,1,0;");
         x.post(3, 0, 1);
@@ -399,7 +412,7 @@ public final class TermsAheadTest extends Checks {
         due("of one at home: none", x.who(0, 0, 0, 1, 0, 1), 0);
     }
 
-    @Says("one of whom, AT HOME now, makes it so; 64 more, if it is so as it is.")
+    @Says("MISSING: such a row: PEOPLE (bits) who are not AT HOME, one of whom, AT HOME now, makes it so; 64 more, if it is so as it is.")
     static void part3_missing() {
         HeelPost x = sent(RELAY, 6);
         fill(x, 0, 1, 2, 3, 4, 5, 6);
@@ -580,14 +593,6 @@ public final class TermsAheadTest extends Checks {
 
     // ---------------------------------------------------------------- ======== 4
 
-    private static void asked(HeelPost x, int one, int what, int answer, int... trace) {
-        due("ask(" + one + ", " + what + ")", x.ask(one, what), answer);
-        for (int i = 0; i < trace.length; i++) {
-            due("trace(" + i + ")", x.trace(i), trace[i]);
-        }
-        due("no more", x.trace(trace.length), NONE);
-    }
-
     @Says("ASKS of PEOPLE, by BODIES, each of which leaves its number in THE TRACE as it begins (the first 16)")
     static void part4_theTraceOfTheLongestAsk() {
         HeelPost x = in(FIVE);
@@ -602,6 +607,25 @@ public final class TermsAheadTest extends Checks {
         asked(x, 1, 0, -77, 13, 10);
         asked(x, 2, 0, -200, 14, 13, 10);
         asked(x, 3, 0, -154, 14, 13, 10);
+    }
+
+    /** In FIVE ahead of the first hour: 0 w begins 1, is in 0; 1 c 0, in 4; 2 d 0, in 1; 3 m 0; 4 b 2. */
+    @Says("11 of WALKERS: what 10 gives, and MARK. 12 of CHILDREN: 0 less what 11 gives. 13 of MAIDS: what 10 gives, less 100. 14 of BLIND ones: what 13 gives, twice.")
+    static void part4_whatSizeGives() {
+        HeelPost x = in(FIVE);
+        int[] sizes = {1 + 0, -(0 + 10), 0 - 997, 0 - 100, (2 - 100) * 2};
+        for (int p = 0; p < 5; p++) {
+            due("size of " + p, x.ask(p, 0), sizes[p]);
+        }
+    }
+
+    @Says("1 MARK: 20 lent to all PEOPLE: the number. 21 of WALKERS: what 20 gives, and where he is. 22 of DRUNKARDS: what 21 gives, less 1000. 23 of MAIDS: what 20 gives, less SIZE. 24 of CHILDREN: what 21 gives, twice.")
+    static void part4_whatMarkGives() {
+        HeelPost x = in(FIVE);
+        int[] marks = {0 + 0, (1 + 4) * 2, 2 + 1 - 1000, 3 + 100, 4 + 196};
+        for (int p = 0; p < 5; p++) {
+            due("mark of " + p, x.ask(p, 1), marks[p]);
+        }
     }
 
     @Says("21 of WALKERS: what 20 gives, and where he is.")

@@ -53,6 +53,14 @@ public final class TermsTest extends Checks {
         due("arrives(0), the 512th call", x.arrives(0), 5);
     }
 
+    @Says("public static final int NONE = -1000000, BAD = -1000001, STATE = -1000002, FULL = -1000003;")
+    static void face_theConstants() {
+        due("NONE", HeelPost.NONE, -1000000);
+        due("BAD", HeelPost.BAD, -1000001);
+        due("STATE", HeelPost.STATE, -1000002);
+        due("FULL", HeelPost.FULL, -1000003);
+    }
+
     // ---------------------------------------------------------------- Terms
 
     @Says("Numbers go from 0 on.")
@@ -514,6 +522,28 @@ public final class TermsTest extends Checks {
             }
         }
         good(two, 2);
+    }
+
+    @Says("the end: how many bytes there are)")
+    static void part1_theEndIsTheEndOfTheLatestText() {
+        String two = ONE + "c4,0,0;";
+        for (int bytes = 0; bytes < two.length(); bytes++) {
+            HeelPost x = in(two);
+            String text = two.substring(0, bytes);
+            due("town() of " + text + " behind a longer text", tell(x, text), bytes == ONE.length() ? 1 : -1000100 - bytes);
+        }
+        HeelPost y = in("t9,24;w8,8,23;");
+        due("one figure where two were", tell(y, "t9,24;w8,8,2"), -1000112);
+        due("a text behind a full tape", tellBehindAFullTape("t9,24;w8,8,2"), -1000112);
+    }
+
+    private static int tellBehindAFullTape(String text) {
+        HeelPost x = new HeelPost();
+        for (int i = 0; i < 120; i++) {
+            x.feed("3;w0,1,".charAt((i + 2) % 7));
+        }
+        x.town();
+        return tell(x, text);
     }
 
     @Says("2 a NUMBER that is not as told")
