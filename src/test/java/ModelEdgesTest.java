@@ -6,7 +6,7 @@ import java.util.TreeMap;
 import java.util.function.Consumer;
 
 /**
- * Every call with every mix of the numbers about its bounds, on HeelPost and on the second writing of the document, in
+ * Every call with all mixes of some numbers about its bounds, on HeelPost and on the second writing of the document, in
  * objects that are new, in the midst of things, and full; what was refused must leave both alike.
  */
 public final class ModelEdgesTest {
