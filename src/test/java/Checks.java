@@ -1,3 +1,4 @@
+import java.io.IOException;
 import java.lang.annotation.Retention;
 import java.lang.annotation.RetentionPolicy;
 import java.lang.reflect.InvocationTargetException;
@@ -5,6 +6,7 @@ import java.lang.reflect.Method;
 import java.lang.reflect.Modifier;
 import java.nio.file.Files;
 import java.nio.file.Path;
+import java.util.List;
 import java.util.TreeMap;
 
 /** What the tests with answers worked out by hand share; a test takes it by extending it. */
@@ -145,6 +147,20 @@ abstract class Checks {
             }
         }
         System.out.println(byName.size() + " tests");
+    }
+
+    /** The lines of the document's face, between the class's first and its last; none, if it is not to be found. */
+    static List<String> faceOfTheDocument() throws IOException {
+        if (!Files.isReadable(DOCUMENT)) {
+            return List.of();
+        }
+        String document = Files.readString(DOCUMENT);
+        int from = document.indexOf("public final class HeelPost {\n");
+        int to = document.indexOf("\n}", Math.max(from, 0));
+        if (from < 0 || to < 0) {
+            throw new IllegalStateException("the document shows no face");
+        }
+        return document.substring(from, to).lines().skip(1).map(String::trim).toList();
     }
 
     static void end() {

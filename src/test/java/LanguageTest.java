@@ -1,12 +1,17 @@
 import java.lang.management.ManagementFactory;
+import java.lang.reflect.Array;
 import java.lang.reflect.Constructor;
 import java.lang.reflect.Field;
 import java.lang.reflect.Method;
 import java.lang.reflect.Modifier;
 import java.nio.file.Files;
 import java.nio.file.Path;
+import java.util.ArrayDeque;
 import java.util.ArrayList;
+import java.util.Deque;
+import java.util.IdentityHashMap;
 import java.util.List;
+import java.util.Map;
 import java.util.Set;
 import java.util.TreeSet;
 import java.util.regex.Matcher;
@@ -31,10 +36,12 @@ public final class LanguageTest {
     public static void main(String[] args) throws Exception {
         String bare = withoutCommentsAndTexts(Files.readString(Path.of(SOURCE)));
         theFace();
+        theFaceAsTheDocumentShowsIt(bare);
         theClasses();
         theWords(bare);
         theMethods(bare);
         nothingIsMade();
+        theRoom();
         System.out.println(wrong == 0 ? "the class keeps to the language" : wrong + " rules are not kept");
         if (wrong != 0) {
             System.exit(1);
@@ -71,6 +78,16 @@ public final class LanguageTest {
             }
         }
         must(constants.equals(Set.of("NONE", "BAD", "STATE", "FULL")), "rule 1: the constants are " + constants);
+    }
+
+    /** Names of numbers do not outlive the compiler, so the heads are looked up in the source. */
+    private static void theFaceAsTheDocumentShowsIt(String bare) throws Exception {
+        Set<String> lines = new TreeSet<>(bare.lines().map(String::trim).toList());
+        must(lines.contains("public final class HeelPost {"), "rule 1: the class");
+        for (String head : Checks.faceOfTheDocument()) {
+            String written = head.endsWith(");") ? head.substring(0, head.length() - 1) + " {" : head;
+            must(lines.contains(written), "rule 1: " + head);
+        }
     }
 
     private static String parameters(Class<?>[] types) {
@@ -163,6 +180,37 @@ public final class LanguageTest {
         long made = after - between - (between - before);
         must(made <= 0, "rule 12: the calls made " + made + " bytes");
         must(sink != 1, "never so");
+    }
+
+    /** A run may make many objects in a room of 600,000 things, 7.3 million fields and elements: here for 2000. */
+    private static void theRoom() throws Exception {
+        Map<Object, Boolean> things = new IdentityHashMap<>();
+        Deque<Object> left = new ArrayDeque<>(List.of(new HeelPost()));
+        int parts = 0;
+        while (!left.isEmpty()) {
+            Object thing = left.pop();
+            if (things.put(thing, true) != null) {
+                continue;
+            }
+            if (thing.getClass().isArray()) {
+                parts += Array.getLength(thing);
+                for (int i = 0; thing instanceof Object[] && i < Array.getLength(thing); i++) {
+                    left.push(Array.get(thing, i));
+                }
+                continue;
+            }
+            for (Field f : thing.getClass().getDeclaredFields()) {
+                if (!Modifier.isStatic(f.getModifiers())) {
+                    parts++;
+                    f.setAccessible(true);
+                    if (!f.getType().isPrimitive()) {
+                        left.push(f.get(thing));
+                    }
+                }
+            }
+        }
+        System.out.println("an object is " + things.size() + " things of " + parts + " parts");
+        must(things.size() <= 300 && parts <= 3650, "the room: an object is too large");
     }
 
     private static void useAll(HeelPost x) {
