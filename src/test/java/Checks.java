@@ -125,18 +125,12 @@ abstract class Checks {
 
     /** All tests of a class that say what they are of, by their names; each by itself, so one that ends badly is told. */
     static void runSaid(Class<? extends Checks> tests) throws Exception {
-        boolean known = Files.isReadable(DOCUMENT);
-        String document = known ? Files.readString(DOCUMENT).replaceAll("\\s+", " ") : "";
-        TreeMap<String, Method> byName = new TreeMap<>();
-        for (Method m : tests.getDeclaredMethods()) {
-            if (Modifier.isStatic(m.getModifiers()) && m.isAnnotationPresent(Says.class)) {
-                byName.put(m.getName(), m);
-            }
-        }
+        String document = documentInOneLine();
+        TreeMap<String, Method> byName = saying(tests);
         for (Method m : byName.values()) {
             test = m.getName();
             String said = m.getAnnotation(Says.class).value();
-            if (known && !document.contains(said)) {
+            if (!document.isEmpty() && !document.contains(said)) {
                 fail("the document does not say: " + said);
             }
             try {
@@ -149,12 +143,31 @@ abstract class Checks {
         System.out.println(byName.size() + " tests");
     }
 
+    static TreeMap<String, Method> saying(Class<? extends Checks> tests) {
+        TreeMap<String, Method> byName = new TreeMap<>();
+        for (Method m : tests.getDeclaredMethods()) {
+            if (Modifier.isStatic(m.getModifiers()) && m.isAnnotationPresent(Says.class)) {
+                byName.put(m.getName(), m);
+            }
+        }
+        return byName;
+    }
+
+    /** The document; nothing, if it is not to be found. */
+    private static String document() throws IOException {
+        return Files.isReadable(DOCUMENT) ? Files.readString(DOCUMENT) : "";
+    }
+
+    static String documentInOneLine() throws IOException {
+        return document().replaceAll("\\s+", " ");
+    }
+
     /** The lines of the document's face, between the class's first and its last; none, if it is not to be found. */
     static List<String> faceOfTheDocument() throws IOException {
-        if (!Files.isReadable(DOCUMENT)) {
+        String document = document();
+        if (document.isEmpty()) {
             return List.of();
         }
-        String document = Files.readString(DOCUMENT);
         int from = document.indexOf("public final class HeelPost {\n");
         int to = document.indexOf("\n}", Math.max(from, 0));
         if (from < 0 || to < 0) {

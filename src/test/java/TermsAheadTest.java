@@ -591,6 +591,16 @@ public final class TermsAheadTest extends Checks {
         }
     }
 
+    @Says("By this it is asked.")
+    static void part3_byKindsItIsAsked() {
+        HeelPost x = in(FIVE);
+        asked(x, 0, 1, 0, 21, 20);
+        asked(x, 1, 1, 10, 24, 21, 20);
+        asked(x, 2, 1, -997, 22, 21, 20);
+        asked(x, 3, 1, 103, 23, 20, 13, 10);
+        asked(x, 4, 0, -196, 14, 13, 10);
+    }
+
     // ---------------------------------------------------------------- ======== 4
 
     @Says("ASKS of PEOPLE, by BODIES, each of which leaves its number in THE TRACE as it begins (the first 16)")

@@ -87,7 +87,7 @@ public final class TermsTest extends Checks {
         due("the last hour of day 1", x.ahead(0, 7), 0);
     }
 
-    @Says("fractions, told as two numbers in lowest terms (0 is 0 by 1)")
+    @Says("but fractions, told as two numbers in lowest terms (0 is 0 by 1)")
     static void terms_fractionsInLowestTerms() {
         HeelPost x = in("t3,4;w0,1,0;w1,2,1;");
         x.post(0, 0, 2);
@@ -619,7 +619,7 @@ public final class TermsTest extends Checks {
         due("until the day ends", x.ahead(0, 23), 3);
     }
 
-    @Says("as many as CLOCK is above BEGINS (0, if it is not)")
+    @Says("one who walks, a child as many as CLOCK is above BEGINS (0, if it is not)")
     static void part2_beforeAtAndBehindBegins() {
         way(in("t9,24;w0,8,2;"), 0, 0, 0, 0, 1, 2);
         way(in("t9,24;c8,0,2;"), 0, 8, 8, 8, 7, 6);
